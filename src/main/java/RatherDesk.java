@@ -11,7 +11,6 @@ public final class RatherDesk {
     private static final int MOST_BYTES = 120;
     private static final int MOST_KEPT = 4;
     private static final int MOST_SIZE = 999999;
-    private static final int MOST_RULE = 5;
     private static final int LISTS = 3;
     private static final int SIDES = 2;
     // A slot is a list of a side: 3 * side + list.
@@ -25,6 +24,13 @@ public final class RatherDesk {
     private static final int TYPES = 0;
     private static final int LANGUAGES = 1;
     private static final int CODINGS = 2;
+
+    // The tie rules; 0 tells no difference.
+    private static final int SMALLER = 1;
+    private static final int GREATER = 2;
+    private static final int TYPE_PLACE = 3;
+    private static final int LANGUAGE_PLACE = 4;
+    private static final int BETTER = 5;
 
     // A name is a number of four letters, 1 to 26 each and 0 behind the last one; the names
     // of a type, a language or a coding stand in one long, the first one on top. So numbers
@@ -47,8 +53,7 @@ public final class RatherDesk {
     private final Listing listing;
     private final Stand[] kept;
     private int keptCount;
-    private boolean scoresStale;
-    private boolean listingStale;
+    private boolean stale;
 
     /** Creates a desk without variants, with empty lists and an empty text. */
     public RatherDesk() {
@@ -63,8 +68,7 @@ public final class RatherDesk {
             kept[place] = new Stand();
         }
         keptCount = 0;
-        scoresStale = true;
-        listingStale = true;
+        stale = true;
     }
 
     // ---- texts
@@ -228,6 +232,7 @@ public final class RatherDesk {
         if (what < 0 || what > 6) {
             throw new IllegalArgumentException("what is out of range");
         }
+        settle();
         return variantValue(variant, what);
     }
 
@@ -236,7 +241,8 @@ public final class RatherDesk {
         if (!isList(side, list) || !now.hasVariant(variant)) {
             throw new IndexOutOfBoundsException("no such side, list or variant");
         }
-        return freshScores().weights[cellOf(variant, slotOf(side, list))];
+        settle();
+        return scores.weights[cellOf(variant, slotOf(side, list))];
     }
 
     /** Returns the place of the entry of a list that counts for a variant. */
@@ -244,7 +250,8 @@ public final class RatherDesk {
         if (!isList(side, list) || !now.hasVariant(variant)) {
             throw new IndexOutOfBoundsException("no such side, list or variant");
         }
-        return freshScores().places[cellOf(variant, slotOf(side, list))];
+        settle();
+        return scores.places[cellOf(variant, slotOf(side, list))];
     }
 
     /** Returns a value of an entry. */
@@ -256,6 +263,7 @@ public final class RatherDesk {
         if (what < 0 || what > 3) {
             throw new IllegalArgumentException("what is out of range");
         }
+        settle();
         return entryValue(slotOf(side, list), entry, what);
     }
 
@@ -264,7 +272,8 @@ public final class RatherDesk {
         if (place < 0) {
             throw new IllegalArgumentException("place is negative");
         }
-        return freshScores().variantAt(place);
+        settle();
+        return scores.variantAt(place);
     }
 
     /** Returns a value of the whole. */
@@ -272,6 +281,7 @@ public final class RatherDesk {
         if (what < 0 || what > 10) {
             throw new IllegalArgumentException("what is out of range");
         }
+        settle();
         return wholeValue(what);
     }
 
@@ -282,7 +292,8 @@ public final class RatherDesk {
         if (place < 0) {
             throw new IllegalArgumentException("place is negative");
         }
-        return place < now.variants ? freshListing().order[place] : NONE;
+        settle();
+        return listing.variantAt(place);
     }
 
     /** Returns a byte of the listing as it is written; NONE if there are not so many. */
@@ -290,7 +301,8 @@ public final class RatherDesk {
         if (index < 0) {
             throw new IllegalArgumentException("index is negative");
         }
-        return freshListing().byteAt(index);
+        settle();
+        return listing.byteAt(index);
     }
 
     // ---- what if, which changes nothing
@@ -308,9 +320,9 @@ public final class RatherDesk {
         if (!now.hasVariant(variant)) {
             throw new IndexOutOfBoundsException("no such variant");
         }
-        Scores fresh = freshScores();
-        int served = fresh.variantAt(0);
-        return served == variant ? fresh.variantAt(1) : served;
+        settle();
+        int served = scores.variantAt(0);
+        return served == variant ? scores.variantAt(1) : served;
     }
 
     /** Returns the least weight of an entry with which a variant would be served. */
@@ -319,7 +331,8 @@ public final class RatherDesk {
         if (!hasEntry(side, list, entry) || !now.hasVariant(variant)) {
             throw new IndexOutOfBoundsException("no such side, list, entry or variant");
         }
-        return freshScores().leastLeadingWeight(slotOf(side, list), entry, variant);
+        settle();
+        return scores.leastLeadingWeight(slotOf(side, list), entry, variant);
     }
 
     /** Returns the least quality with which a variant would be served. */
@@ -327,7 +340,8 @@ public final class RatherDesk {
         if (!now.hasVariant(variant)) {
             throw new IndexOutOfBoundsException("no such variant");
         }
-        return freshScores().leastLeadingQuality(variant);
+        settle();
+        return scores.leastLeadingQuality(variant);
     }
 
     /** Tells whether both sides would be served the same variant. */
@@ -344,25 +358,24 @@ public final class RatherDesk {
         }
         keptCount--;
         now.copyFrom(kept[keptCount]);
-        staleAll();
+        stale = true;
         return keptCount;
     }
 
     /** Returns a hash of the state. */
     public long digest() {
+        settle();
         long hash = mix(12856, keptCount);
         for (int what = 0; what <= 10; what++) {
             hash = mix(hash, wholeValue(what));
         }
         hash = mixVariants(hash);
         hash = mixEntries(hash);
-        Scores fresh = freshScores();
-        for (int place = 0; place < fresh.rankedCount; place++) {
-            hash = mix(hash, fresh.variantAt(place));
+        for (int place = 0; place < scores.rankedCount; place++) {
+            hash = mix(hash, scores.variantAt(place));
         }
-        Listing written = freshListing();
-        for (int index = 0; index < written.length; index++) {
-            hash = mix(hash, written.byteAt(index));
+        for (int index = 0; index < listing.length; index++) {
+            hash = mix(hash, listing.byteAt(index));
         }
         return hash;
     }
@@ -374,7 +387,7 @@ public final class RatherDesk {
     }
 
     private static boolean isRule(int rule) {
-        return rule >= 0 && rule <= MOST_RULE;
+        return rule >= 0 && rule <= BETTER;
     }
 
     private static int slotOf(int side, int list) {
@@ -402,7 +415,7 @@ public final class RatherDesk {
         }
         kept[keptCount].copyFrom(now);
         keptCount++;
-        staleAll();
+        stale = true;
     }
 
     /** The oldest state's rows go to the end, to be written over. */
@@ -415,25 +428,13 @@ public final class RatherDesk {
         keptCount = MOST_KEPT - 1;
     }
 
-    private void staleAll() {
-        scoresStale = true;
-        listingStale = true;
-    }
-
-    private Scores freshScores() {
-        if (scoresStale) {
+    /** Works out what a call is about to read, if the state has changed since. */
+    private void settle() {
+        if (stale) {
             scores.workOut(NONE);
-            scoresStale = false;
-        }
-        return scores;
-    }
-
-    private Listing freshListing() {
-        if (listingStale) {
             listing.workOut();
-            listingStale = false;
+            stale = false;
         }
-        return listing;
     }
 
     private int servedWithoutSide(int side) {
@@ -448,13 +449,13 @@ public final class RatherDesk {
             case 1:
                 return now.qualities[variant];
             case 2:
-                return freshScores().scores[variant];
+                return scores.scores[variant];
             case 3:
-                return freshScores().reasonOf(variant);
+                return scores.reasonOf(variant);
             case 4:
-                return freshScores().ranks[variant];
+                return scores.ranks[variant];
             case 5:
-                return freshListing().places[variant];
+                return listing.places[variant];
             default:
                 return now.languageNames(variant);
         }
@@ -469,7 +470,7 @@ public final class RatherDesk {
             case 2:
                 return now.matchCount(slot, place);
             default:
-                return freshScores().countingCount(slot, place);
+                return scores.countingCount(slot, place);
         }
     }
 
@@ -478,11 +479,11 @@ public final class RatherDesk {
             case 0:
                 return now.variants;
             case 1:
-                return freshScores().rankedCount;
+                return scores.rankedCount;
             case 2:
-                return freshScores().variantAt(0);
+                return scores.variantAt(0);
             case 3:
-                return freshScores().servedScore();
+                return scores.servedScore();
             case 4:
                 return now.entriesOf(0);
             case 5:
@@ -494,7 +495,7 @@ public final class RatherDesk {
             case 9:
                 return now.ties[what - 7];
             default:
-                return freshListing().length;
+                return listing.length;
         }
     }
 
@@ -504,13 +505,12 @@ public final class RatherDesk {
 
     private long mixVariants(long start) {
         long hash = start;
-        Scores fresh = freshScores();
         for (int variant = 0; variant < now.variants; variant++) {
             for (int what = 0; what <= 6; what++) {
                 hash = mix(hash, variantValue(variant, what));
             }
             for (int slot = 0; slot < SLOTS; slot++) {
-                hash = mix(hash, fresh.weights[cellOf(variant, slot)]);
+                hash = mix(hash, scores.weights[cellOf(variant, slot)]);
             }
         }
         return hash;
@@ -753,7 +753,7 @@ public final class RatherDesk {
         final long[] ranges = new long[SLOTS * MOST_ENTRIES];
         final int[] names = new int[SLOTS * MOST_ENTRIES];
         final int[] weights = new int[SLOTS * MOST_ENTRIES];
-        final int[] ties = {1, 0, 0};
+        final int[] ties = {SMALLER, 0, 0};
 
         void copyFrom(Stand other) {
             variants = other.variants;
@@ -937,6 +937,8 @@ public final class RatherDesk {
         final int[] scores = new int[MOST_VARIANTS];
         final int[] ranks = new int[MOST_VARIANTS];
         private final int[] order = new int[MOST_VARIANTS];
+        // What each tie rule looks at, of each variant: the smaller one comes first.
+        private final int[] tieRanks = new int[MOST_VARIANTS * RULES];
         int rankedCount;
 
         Scores(Stand stand) {
@@ -954,6 +956,9 @@ public final class RatherDesk {
                             empty ? FULL : stand.weightAt(slot, place, variant);
                 }
                 scores[variant] = scoreOfQuality(variant, stand.qualities[variant]);
+                for (int tie = 0; tie < RULES; tie++) {
+                    tieRanks[variant * RULES + tie] = tieRank(stand.ties[tie], variant);
+                }
             }
             rankAll();
         }
@@ -1097,9 +1102,9 @@ public final class RatherDesk {
                 return rivalScore > score;
             }
             for (int tie = 0; tie < RULES; tie++) {
-                int rule = stand.ties[tie];
-                int rivalRank = tieRank(rule, rival, stand.qualities[rival]);
-                int rank = tieRank(rule, variant, quality);
+                boolean better = stand.ties[tie] == BETTER;
+                int rivalRank = tieRanks[rival * RULES + tie];
+                int rank = better ? -quality : tieRanks[variant * RULES + tie];
                 if (rivalRank != rank) {
                     return rivalRank < rank;
                 }
@@ -1107,19 +1112,18 @@ public final class RatherDesk {
             return rival < variant;
         }
 
-        /** What a tie rule looks at; the smaller one comes first. */
-        private int tieRank(int rule, int variant, int quality) {
+        private int tieRank(int rule, int variant) {
             switch (rule) {
-                case 1:
+                case SMALLER:
                     return stand.sizes[variant];
-                case 2:
+                case GREATER:
                     return -stand.sizes[variant];
-                case 3:
+                case TYPE_PLACE:
                     return placeRank(variant, TYPES);
-                case 4:
+                case LANGUAGE_PLACE:
                     return placeRank(variant, LANGUAGES);
-                case 5:
-                    return -quality;
+                case BETTER:
+                    return -stand.qualities[variant];
                 default:
                     return 0;
             }
@@ -1137,7 +1141,7 @@ public final class RatherDesk {
         private static final int MOST_LISTED = MOST_VARIANTS * 38;
 
         private final Stand stand;
-        final int[] order = new int[MOST_VARIANTS];
+        private final int[] order = new int[MOST_VARIANTS];
         final int[] places = new int[MOST_VARIANTS];
         private final byte[] bytes = new byte[MOST_LISTED];
         int length;
@@ -1159,6 +1163,11 @@ public final class RatherDesk {
                 }
                 putVariant(order[place]);
             }
+        }
+
+        /** The variant at a place; NONE if there are not so many. */
+        int variantAt(int place) {
+            return place >= 0 && place < stand.variants ? order[place] : NONE;
         }
 
         /** The byte at an index; NONE if there are not so many. */

@@ -1,3 +1,7 @@
+import java.util.List;
+import java.util.function.Consumer;
+import java.util.function.ToLongFunction;
+
 /** Promises 8 to 14: the changes. */
 public final class ChangesTest {
     private static final int MIN = Integer.MIN_VALUE;
@@ -161,7 +165,81 @@ public final class ChangesTest {
         Check.due("whole(7) then", 5, desk.whole(7));
     }
 
+    /** Each question, asked first behind each change, sees the change. */
+    private static void askedFirst() {
+        List<ToLongFunction<RatherDesk>> questions = List.of(
+                desk -> desk.variant(0, 2), desk -> desk.variant(0, 4), desk -> desk.variant(0, 5),
+                desk -> desk.weight(0, 0, 0), desk -> desk.counting(0, 0, 0),
+                desk -> desk.entry(0, 0, 0, 3), desk -> desk.ranked(0), desk -> desk.whole(1),
+                desk -> desk.whole(2), desk -> desk.whole(3), desk -> desk.whole(10),
+                desk -> desk.listed(0), desk -> desk.listingByte(0), desk -> desk.servedFor(0),
+                desk -> desk.servedFor(1), desk -> desk.servedWithout(0),
+                desk -> desk.leastWeight(0, 0, 0, 0), desk -> desk.leastQuality(0),
+                desk -> desk.agree() ? 1 : 0, desk -> desk.digest());
+        List<Consumer<RatherDesk>> changes = List.of(
+                desk -> desk.removeVariant(0), desk -> desk.setQuality(0, 0),
+                desk -> desk.setSize(0, 90), desk -> desk.setWeight(0, 0, 0, 0),
+                desk -> desk.removeEntry(0, 0, 1), desk -> desk.swapSides(),
+                desk -> desk.setTies(2, 0, 0), desk -> desk.takeList(0, 0),
+                desk -> desk.addVariant(), desk -> desk.undo());
+        for (int change = 0; change < changes.size(); change++) {
+            for (int question = 0; question < questions.size(); question++) {
+                RatherDesk asked = twoSides(change);
+                questions.get(question).applyAsLong(asked);
+                changes.get(change).accept(asked);
+                RatherDesk fresh = twoSides(change);
+                changes.get(change).accept(fresh);
+                Check.due("question " + question + " behind change " + change,
+                        questions.get(question).applyAsLong(fresh),
+                        questions.get(question).applyAsLong(asked));
+            }
+        }
+    }
+
+    private static RatherDesk twoSides(int change) {
+        RatherDesk desk = Check.desk("b/a en id 1", "b/b en-gb id 22", "b/c fr-a-b gz 333");
+        Check.list(desk, 0, 0, "b/a,*/*;500");
+        Check.list(desk, 1, 0, "b/b,*/*;400");
+        desk.setQuality(0, 900);
+        Check.text(desk, change == 7 ? "b/c" : "a/a a id 0");
+        return desk;
+    }
+
+    /** Sixteen variants, and ten entries in each list: every row is in use. */
+    private static void fullDesk() {
+        RatherDesk desk = new RatherDesk();
+        for (int variant = 0; variant < 16; variant++) {
+            Check.text(desk, "a/b en " + (char) ('a' + variant) + " " + variant);
+            desk.addVariant();
+        }
+        for (int side = 0; side < 2; side++) {
+            Check.list(desk, side, 0, "*/*,*/*,*/*,*/*,*/*,*/*,*/*,*/*,*/*,a/*");
+            Check.list(desk, side, 1, "*,*,*,*,*,*,*,*,*,en");
+            Check.list(desk, side, 2, "*,*,*,*,*,*,*,*,*;990,p;999");
+        }
+        Check.due("counting", 9, desk.counting(1, 1, 15));
+        Check.due("counting the last", 9, desk.counting(1, 2, 15));
+        Check.due("its score", 998, desk.variant(15, 2));
+        Check.due("its place", 15, desk.variant(15, 4));
+        Check.due("least weight", -1, desk.leastWeight(1, 2, 9, 15));
+        Check.due("least quality", -1, desk.leastQuality(15));
+        Check.due("the first one's least quality", 1000, desk.leastQuality(0));
+        desk.setTies(2, 0, 0);
+        Check.due("the greatest one's place", 15, desk.variant(15, 4));
+        Check.due("a side's entries", 30, desk.swapSides());
+        Check.due("removeEntry(1, 2, 0)", 9, desk.removeEntry(1, 2, 0));
+        Check.due("the weight of what was the last but one", 990, desk.entry(1, 2, 7, 0));
+        Check.due("the weight of what was the last", 999, desk.entry(1, 2, 8, 0));
+        Check.due("removeVariant(0)", 15, desk.removeVariant(0));
+        Check.due("the last one's size", 15, desk.variant(14, 0));
+        Check.due("undo()", 3, desk.undo());
+        Check.due("removeVariant(15)", 15, desk.removeVariant(15));
+        Check.due("the last one's size then", 14, desk.variant(14, 0));
+    }
+
     public static void main(String[] args) {
+        askedFirst();
+        fullDesk();
         removing();
         qualities();
         sizes();
