@@ -1086,7 +1086,6 @@ public final class RatherDesk {
             int score = scores[variant];
             int quality = stand.qualities[variant];
             int place = rankedCount;
-            // Variants come by their numbers: one moves back only for one that is behind it.
             while (place > 0 && !isAhead(order[place - 1], scores[order[place - 1]],
                     variant, score, quality)) {
                 order[place] = order[place - 1];
