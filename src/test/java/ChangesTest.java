@@ -165,7 +165,7 @@ public final class ChangesTest {
         Check.due("whole(7) then", 5, desk.whole(7));
     }
 
-    /** Each question, asked first behind each change, sees the change. */
+    /** Each question, asked first behind each change, sees the change as a later one does. */
     private static void askedFirst() {
         List<ToLongFunction<RatherDesk>> questions = List.of(
                 desk -> desk.variant(0, 2), desk -> desk.variant(0, 4), desk -> desk.variant(0, 5),
@@ -189,6 +189,7 @@ public final class ChangesTest {
                 changes.get(change).accept(asked);
                 RatherDesk fresh = twoSides(change);
                 changes.get(change).accept(fresh);
+                fresh.digest();
                 Check.due("question " + question + " behind change " + change,
                         questions.get(question).applyAsLong(fresh),
                         questions.get(question).applyAsLong(asked));

@@ -87,10 +87,19 @@ final class Check {
         }
     }
 
+    /** The values next to a range on both sides, and the farthest ones. */
+    static int[] outside(int least, int most) {
+        return new int[] {Integer.MIN_VALUE, least - 1, most + 1, Integer.MAX_VALUE};
+    }
+
     static String listing(RatherDesk desk) {
         StringBuilder bytes = new StringBuilder();
-        for (int index = 0; desk.listingByte(index) != RatherDesk.NONE; index++) {
-            bytes.append((char) desk.listingByte(index));
+        int index = 0;
+        int next = desk.listingByte(index);
+        while (next != RatherDesk.NONE) {
+            bytes.append((char) next);
+            index++;
+            next = desk.listingByte(index);
         }
         return bytes.toString();
     }

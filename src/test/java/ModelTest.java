@@ -12,6 +12,8 @@ public final class ModelTest {
     private final Model model = new Model();
     private final StringBuilder trail = new StringBuilder();
     private int calls = 0;
+    // One less than all at first: the last call is for the digest.
+    private int limit = CALLS - 1;
 
     private ModelTest(long seed) {
         random = new Random(seed);
@@ -104,6 +106,9 @@ public final class ModelTest {
     }
 
     private void both(String call, Call got, Call want) {
+        if (calls >= limit) {
+            return;
+        }
         calls++;
         trail.append(call).append('\n');
         String due = outcome(want);
@@ -305,9 +310,10 @@ public final class ModelTest {
     }
 
     private void run() {
-        while (calls < CALLS) {
+        while (calls < limit) {
             step();
         }
+        limit = CALLS;
         both("digest", () -> desk.digest(), () -> model.digest());
     }
 

@@ -1,3 +1,7 @@
+import java.util.ArrayList;
+import java.util.List;
+import java.util.function.Consumer;
+
 /** Promises 28 and 29: undo and digest. */
 public final class UndoDigestTest {
     private static void undoing() {
@@ -18,20 +22,20 @@ public final class UndoDigestTest {
     }
 
     private static void everyChange() {
-        RatherDesk desk = Check.desk("a/a a id 1", "b/b b-c gz 2");
-        Check.list(desk, 0, 0, "a/a;5,*/*;6");
-        Check.list(desk, 1, 1, "b;7");
-        Runnable[] changes = {
-            () -> desk.removeVariant(0), () -> desk.setQuality(1, 5), () -> desk.setSize(1, 6),
-            () -> desk.setWeight(0, 0, 1, 9), () -> desk.removeEntry(0, 0, 0),
-            () -> desk.swapSides(), () -> desk.setTies(3, 4, 5),
-            () -> desk.takeList(0, 1), () -> desk.addVariant(),
-        };
+        List<Consumer<RatherDesk>> changes = List.of(
+                desk -> desk.removeVariant(0), desk -> desk.setQuality(1, 5),
+                desk -> desk.setSize(1, 6), desk -> desk.setWeight(0, 0, 1, 9),
+                desk -> desk.removeEntry(0, 0, 0), desk -> desk.swapSides(),
+                desk -> desk.setTies(3, 4, 5), desk -> desk.takeList(0, 1),
+                desk -> desk.addVariant());
         String[] texts = {"", "", "", "", "", "", "", "b;8,*;9", "c/c c id 5"};
-        for (int change = 0; change < changes.length; change++) {
+        for (int change = 0; change < texts.length; change++) {
+            RatherDesk desk = Check.desk("a/a a id 1", "b/b b-c gz 2");
+            Check.list(desk, 0, 0, "a/a;5,*/*;6");
+            Check.list(desk, 1, 1, "b;7");
             Check.text(desk, texts[change]);
             String before = told(desk);
-            changes[change].run();
+            changes.get(change).accept(desk);
             Check.due("change " + change + " changes", true, !before.equals(told(desk)));
             Check.due("undo() of change " + change, 3, desk.undo());
             Check.same("behind undo() of change " + change, before, told(desk));
@@ -70,13 +74,14 @@ public final class UndoDigestTest {
         return told.toString();
     }
 
-    private static long[] values(RatherDesk desk, int states) {
-        java.util.List<Long> values = new java.util.ArrayList<>();
+    static long[] values(RatherDesk desk, int states) {
+        List<Long> values = new ArrayList<>();
         values.add((long) states);
         for (int what = 0; what <= 10; what++) {
             values.add((long) desk.whole(what));
         }
-        for (int variant = 0; variant < desk.whole(0); variant++) {
+        int variants = desk.whole(0);
+        for (int variant = 0; variant < variants; variant++) {
             for (int what = 0; what <= 6; what++) {
                 values.add((long) desk.variant(variant, what));
             }
@@ -91,10 +96,12 @@ public final class UndoDigestTest {
                 }
             }
         }
-        for (int place = 0; place < desk.whole(1); place++) {
+        int ranked = desk.whole(1);
+        for (int place = 0; place < ranked; place++) {
             values.add((long) desk.ranked(place));
         }
-        for (int index = 0; index < desk.whole(10); index++) {
+        int length = desk.whole(10);
+        for (int index = 0; index < length; index++) {
             values.add((long) desk.listingByte(index));
         }
         return values.stream().mapToLong(Long::longValue).toArray();
@@ -128,11 +135,24 @@ public final class UndoDigestTest {
         Check.due("digest() with a list", hash(desk, 2), desk.digest());
         Check.list(desk, 1, 2, "id;500,*;100,x");
         Check.due("digest() with another list", hash(desk, 3), desk.digest());
-        Check.text(desk, "te/pl fr id 3");
-        desk.addVariant();
+    }
+
+    private static RatherDesk two() {
+        RatherDesk desk = Check.desk("te/ht en-gb gz 400", "te/pl fr id 3");
+        Check.list(desk, 0, 0, "te/*;500,*/*;100,te/ht;900");
+        Check.list(desk, 1, 2, "id;500,*;100,x");
+        return desk;
+    }
+
+    private static void digestsOfTwo() {
+        RatherDesk desk = two();
         Check.due("digest() with two variants", hash(desk, 4), desk.digest());
         desk.setQuality(0, 0);
         Check.due("digest() with a refused one", hash(desk, 4), desk.digest());
+    }
+
+    private static void digestsOfRules() {
+        RatherDesk desk = two();
         desk.setTies(5, 4, 3);
         Check.due("digest() with other rules", hash(desk, 4), desk.digest());
         desk.undo();
@@ -144,6 +164,8 @@ public final class UndoDigestTest {
         everyChange();
         noChange();
         digests();
+        digestsOfTwo();
+        digestsOfRules();
         Check.end();
     }
 }
